@@ -1,0 +1,58 @@
+import java.util.function.Supplier;
+import java.util.function.ToIntFunction;
+
+/** Counts the answers that are not due, and ends the test with exit code 1 if there was one. */
+final class Checks {
+    private int made = 0;
+    private int wrong = 0;
+
+    void due(String what, long got, long want) {
+        made++;
+        if (got != want) {
+            wrong++;
+            System.out.println(what + " answered " + got + ", due is " + want);
+        }
+    }
+
+    void same(String what, String got, String want) {
+        made++;
+        if (!got.equals(want)) {
+            wrong++;
+            System.out.println(what + " gave\n  " + got + "\ndue is\n  " + want);
+        }
+    }
+
+    /** The call answers the error code and changes nothing: a twin without the call looks the same. */
+    void refused(String what, Supplier<MastFlags> make, ToIntFunction<MastFlags> call, int code) {
+        MastFlags asked = make.get();
+        due(what, call.applyAsInt(asked), code);
+        same(what + ", then all", Snapshot.ofAll(asked), Snapshot.ofAll(make.get()));
+    }
+
+    /** The call only tells something: a twin without the call looks the same. */
+    void onlyTells(String what, Supplier<MastFlags> make, ToIntFunction<MastFlags> call, int want) {
+        refused(what, make, call, want);
+    }
+
+    /** The call gives the answer, and one undo() brings the state ahead of it back. */
+    void undoable(String what, Supplier<MastFlags> make, ToIntFunction<MastFlags> call, int want) {
+        MastFlags asked = make.get();
+        due(what, call.applyAsInt(asked), want);
+        due(what + ", then undo() fails", asked.undo() < 0 ? 1 : 0, 0);
+        same(what + ", undone", Snapshot.ofState(asked), Snapshot.ofState(make.get()));
+    }
+
+    /** What total(7) is behind the call. */
+    void pennantBehind(String what, Supplier<MastFlags> make, ToIntFunction<MastFlags> call, int want) {
+        MastFlags asked = make.get();
+        due(what + " fails", call.applyAsInt(asked) < 0 ? 1 : 0, 0);
+        due(what + ", then total(7)", asked.total(7), want);
+    }
+
+    void finish() {
+        System.out.println(made + " checks, " + wrong + " wrong");
+        if (wrong != 0) {
+            System.exit(1);
+        }
+    }
+}
