@@ -9,6 +9,7 @@ public final class AnswersTest {
         answerRefuses();
         logged();
         loggedFull();
+        loggedLengths();
         loggedRefuses();
         total();
         checks.finish();
@@ -77,18 +78,22 @@ public final class AnswersTest {
         checks.refused("not known", () -> oneSided(1), y -> y.answer(), MastFlags.NOT_POSSIBLE);
     }
 
-    /** Tells the message of so many hoists, all of them the word 50 but the last one. */
-    private static void tell(MastFlags x, int hoists, int word) {
+    /** Logs a message of one word. */
+    private static void tell(MastFlags x, int word) {
         while (x.total(5) > 0) {
             x.strike(0);
         }
         x.enter(10, word);
-        for (int halyard = 0; halyard < hoists; halyard++) {
-            x.bend(halyard, 0);
-            if (halyard > 0) {
-                x.unbend(halyard);
-                x.bend(halyard, halyard % 3);
-            }
+        x.bend(0, 0);
+        x.answer();
+        x.answer();
+        x.lower();
+    }
+
+    /** Logs a message of so many words: 50, 51, 52, 50, 51. */
+    private static void tellMany(MastFlags x, int words) {
+        for (int halyard = 0; halyard < words; halyard++) {
+            x.bend(halyard, halyard % 3);
         }
         x.answer();
         x.answer();
@@ -125,7 +130,7 @@ public final class AnswersTest {
     private static void loggedFull() {
         MastFlags x = Masts.withBook();
         for (int message = 0; message < 10; message++) {
-            tell(x, 1, 80 + message);
+            tell(x, 80 + message);
             checks.due("total(8)", x.total(8), Math.min(message + 1, 8));
             checks.due("total(9)", x.total(9), message + 1);
             checks.due("the oldest", x.logged(0, 1), 80 + Math.max(message - 7, 0));
@@ -136,22 +141,24 @@ public final class AnswersTest {
         checks.due("undone, the oldest", x.logged(0, 1), 81);
         checks.due("undone, the latest", x.logged(7, 1), 88);
         checks.due("undone, total(9)", x.total(9), 9);
-        MastFlags lengths = Masts.withBook();
-        for (int halyards = 1; halyards <= 5; halyards++) {
-            for (int halyard = 0; halyard < halyards; halyard++) {
-                lengths.bend(halyard, halyard % 3);
+    }
+
+    private static void loggedLengths() {
+        MastFlags x = Masts.withBook();
+        int[] words = {1, 2, 3, 4, 5, 4, 3, 2, 5, 1, 4, 2};
+        for (int message = 0; message < words.length; message++) {
+            tellMany(x, words[message]);
+            int oldest = Math.max(message - 7, 0);
+            for (int at = oldest; at <= message; at++) {
+                int part = words[at];
+                checks.due("length of " + at + " of " + message, x.logged(at - oldest, 0), part);
+                checks.due("last of " + at + " of " + message, x.logged(at - oldest, part), 50 + (part - 1) % 3);
             }
-            lengths.answer();
-            lengths.answer();
-            lengths.lower();
         }
-        for (int times = 0; times < 5; times++) {
-            tell(lengths, 1, 7);
-        }
-        checks.due("two are gone, a length", lengths.logged(0, 0), 3);
-        checks.due("two are gone, a word", lengths.logged(0, 3), 52);
-        checks.due("the third now", lengths.logged(2, 5), 51);
-        checks.due("the fourth now", lengths.logged(3, 0), 1);
+        x.undo();
+        checks.due("undone, the oldest length", x.logged(0, 0), 4);
+        checks.due("undone, the latest length", x.logged(7, 0), 4);
+        checks.due("undone, its last word", x.logged(7, 4), 50);
     }
 
     private static void loggedRefuses() {

@@ -14,15 +14,12 @@ final class Masts {
         return x;
     }
 
-    /** The hoists 0, 2 and 4 tell the words 50, 51 and 50; both readers know them. */
+    /** The hoists 0 and 2 tell the words 50 and 51; there is a text and a saved state, too. */
     static MastFlags signalling() {
         MastFlags x = withBook();
         x.bend(0, 0);
         x.bend(2, 1);
-        x.bend(4, 0);
-        // Two calls that are no matter of the state: the texts and the saved state stand beside it.
         type(x, "0:1");
-        x.unbend(4);
         x.save();
         return x;
     }

@@ -172,6 +172,33 @@ public final class PredictionsTest {
         checks.refused("word 100", Masts::full, y -> y.bestEntry(100), MastFlags.BAD_VALUE);
     }
 
+    private static void bestEntryUppermost() {
+        MastFlags x = new MastFlags();
+        x.paint(0, 7, 7, 9);
+        x.enter(10, 1);
+        x.enter(101, 1);
+        x.enter(1012, 1);
+        x.enter(10123, 1);
+        checks.due("only the uppermost one droops", x.bestEntry(1), MastFlags.NONE);
+        x.setWind(9, 0);
+        checks.due("it flies", x.bestEntry(1), 0);
+    }
+
+    private static void bestEntryLengths() {
+        MastFlags x = new MastFlags();
+        int[] numbers = {10000, 1000, 100, 10, 11};
+        int[] best = {0, 1, 2, 3, 3};
+        for (int entry = 0; entry < numbers.length; entry++) {
+            x.enter(numbers[entry], 1);
+            checks.due("the shortest of " + (entry + 1), x.bestEntry(1), best[entry]);
+        }
+        MastFlags other = new MastFlags();
+        other.enter(100, 1);
+        other.enter(11, 1);
+        other.enter(10, 1);
+        checks.due("one flag ahead of the flags 0 and 0", other.bestEntry(1), 1);
+    }
+
     private static void bestEntryNotAsItself() {
         MastFlags x = new MastFlags();
         x.enter(18, 5);
@@ -191,6 +218,8 @@ public final class PredictionsTest {
         x.enter(134, 6);
         x.sail(1);
         checks.due("the front reads, whoever sails where", x.bestEntry(6), MastFlags.NONE);
+        bestEntryUppermost();
+        bestEntryLengths();
         MastFlags mirror = new MastFlags();
         mirror.paint(6, 2, 3, 0);
         mirror.enter(13, 1);

@@ -140,7 +140,7 @@ public final class TextsTest {
         MastFlags x = Masts.full();
         x.clearText();
         Masts.type(x, "1:3r1,4:45");
-        checks.due("hoist()", x.hoist(), 5 - 1);
+        checks.due("hoist()", x.hoist(), 4);
         checks.due("the buffer is empty", x.clearText(), 0);
         checks.due("two hoists", x.total(4), 2);
         checks.due("nothing on 0", x.sign(0, 1, 0), MastFlags.NO_SUCH);
