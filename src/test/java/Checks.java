@@ -6,6 +6,10 @@ final class Checks {
     private int made = 0;
     private int wrong = 0;
 
+    int made() {
+        return made;
+    }
+
     void due(String what, long got, long want) {
         made++;
         if (got != want) {
@@ -18,15 +22,28 @@ final class Checks {
         made++;
         if (!got.equals(want)) {
             wrong++;
-            System.out.println(what + " gave\n  " + got + "\ndue is\n  " + want);
+            int at = firstDifference(got, want);
+            System.out.println(what + " gave .." + around(got, at) + ".., due is .." + around(want, at) + "..");
         }
+    }
+
+    private static int firstDifference(String one, String other) {
+        int at = 0;
+        while (at < one.length() && at < other.length() && one.charAt(at) == other.charAt(at)) {
+            at++;
+        }
+        return at;
+    }
+
+    private static String around(String text, int at) {
+        return text.substring(Math.max(0, at - 60), Math.min(text.length(), at + 60));
     }
 
     /** The call answers the error code and changes nothing: a twin without the call looks the same. */
     void refused(String what, Supplier<MastFlags> make, ToIntFunction<MastFlags> call, int code) {
         MastFlags asked = make.get();
         due(what, call.applyAsInt(asked), code);
-        same(what + ", then all", Snapshot.ofAll(asked), Snapshot.ofAll(make.get()));
+        same(what + ", then all", Snapshot.ofAll(Snapshot.behind(make, call)), Snapshot.ofAll(make));
     }
 
     /** The call only tells something: a twin without the call looks the same. */

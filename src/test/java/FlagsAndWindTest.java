@@ -36,10 +36,14 @@ public final class FlagsAndWindTest {
         checks.due("new, undo()", x.undo(), MastFlags.NOT_POSSIBLE);
         checks.due("new, restore()", x.restore(), MastFlags.NOT_POSSIBLE);
         checks.due("new, clearText()", x.clearText(), 0);
-        MastFlags other = new MastFlags();
-        x.paint(0, 7, 7, 9);
-        x.bend(0, 0);
-        checks.same("another object", Snapshot.ofAll(other), Snapshot.ofAll(new MastFlags()));
+        checks.same("another object", Snapshot.ofAll(FlagsAndWindTest::besideAnother), Snapshot.ofAll(MastFlags::new));
+    }
+
+    /** A new object, made ahead of another one that is changed. */
+    private static MastFlags besideAnother() {
+        MastFlags x = new MastFlags();
+        Masts.full();
+        return x;
     }
 
     private static void paint() {
