@@ -60,7 +60,8 @@ public final class AnswersBoundsTest extends Bounds {
         return Snapshot.behind(make, x -> x.answer());
     }
 
-    @Says({"Lets the other ship answer.", "Returns how its pennant is then: 1 (at the dip) if there is a hoist that is not empty"})
+    @Says({"Lets the other ship answer.", "Returns how its pennant is then: 1 (at the dip) if there is a hoist "
+            + "that is not empty"})
     static void promise19AtTheDip() {
         for (int halyard = 0; halyard < 5; halyard++) {
             MastFlags x = hoisted(halyard, 9);

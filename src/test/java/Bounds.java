@@ -159,4 +159,15 @@ abstract class Bounds {
             taken("bend(" + halyard + ", " + sign + ")", x.bend(halyard, sign));
         }
     }
+
+    /** The halyard k tells the word 50 + k by a flag of one colour, on so many halyards. */
+    static MastFlags known(int halyards) {
+        MastFlags x = new MastFlags();
+        for (int halyard = 0; halyard < halyards; halyard++) {
+            x.paint(halyard, halyard, halyard, 0);
+            x.enter(10 + halyard, 50 + halyard);
+            x.bend(halyard, halyard);
+        }
+        return x;
+    }
 }

@@ -1,3 +1,4 @@
+import java.util.Arrays;
 import java.util.function.Supplier;
 
 /** The sentences of promises 6 to 10: bend, unbend, exchange, lower, sign. */
@@ -84,12 +85,12 @@ public final class HoistsBoundsTest extends Bounds {
         refused("of the halyard beside it", () -> hoisted(1, 4, 5, 6), x -> x.bend(0, PENNANT + 1), NOT_POSSIBLE);
         refused("at the dip", Masts::full, x -> x.bend(2, PENNANT + 2), NOT_POSSIBLE);
         refused("brimful", Masts::brimful, x -> x.bend(3, PENNANT + 3), NOT_POSSIBLE);
-        refused("behind unbend", () -> Snapshot.behind(() -> hoisted(0, 4, 5), y -> y.unbend(0)).get(),
+        refused("behind unbend", Snapshot.behind(() -> hoisted(0, 4, 5), y -> y.unbend(0)),
                 x -> x.bend(0, PENNANT + 2), NOT_POSSIBLE);
     }
 
     private static void pennantBelow(int halyard, int pennant, int above) {
-        Supplier<MastFlags> make = () -> hoisted(halyard, java.util.Arrays.copyOf(new int[] {4, 5, 6}, above));
+        Supplier<MastFlags> make = () -> hoisted(halyard, Arrays.copyOf(new int[] {4, 5, 6}, above));
         if (above < pennant) {
             refused("pennant " + pennant + " below " + above, make, x -> x.bend(halyard, PENNANT + pennant), NOT_POSSIBLE);
         } else {
@@ -479,13 +480,13 @@ public final class HoistsBoundsTest extends Bounds {
     static void promise10NoSuchPlace() {
         refusedOutside(1, 4, (x, place) -> x.sign(0, place, 0), NO_SUCH);
         for (int size = 0; size <= 4; size++) {
-            int[] signs = java.util.Arrays.copyOf(new int[] {4, 5, 6, 7}, size);
+            int[] signs = Arrays.copyOf(new int[] {4, 5, 6, 7}, size);
             for (int place = size + 1; place <= 5; place++) {
                 int asked = place;
                 refused("place " + place + " of " + size, () -> hoisted(4, signs), x -> x.sign(4, asked, 0), NO_SUCH);
             }
         }
-        refused("unbent", () -> Snapshot.behind(() -> hoisted(1, 4, 5), y -> y.unbend(1)).get(),
+        refused("unbent", Snapshot.behind(() -> hoisted(1, 4, 5), y -> y.unbend(1)),
                 x -> x.sign(1, 2, 0), NO_SUCH);
     }
 

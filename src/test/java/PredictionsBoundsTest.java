@@ -227,7 +227,8 @@ public final class PredictionsBoundsTest extends Bounds {
         };
     }
 
-    @Says("Finds the shortest hoist by which a word could be told so that the reader from the front knows it as things are now:")
+    @Says("Finds the shortest hoist by which a word could be told so that the reader from the front knows it "
+            + "as things are now:")
     static void promise25AsThingsAreNow() {
         MastFlags x = book(7, 12345, 1234, 123, 16).get();
         due("one flag", x.bestEntry(7), 3);

@@ -1,3 +1,6 @@
+import java.util.ArrayList;
+import java.util.Arrays;
+import java.util.List;
 import java.util.function.Supplier;
 
 /** The sentences of promises 14 to 17: seen, word, known, isSame. */
@@ -71,7 +74,7 @@ public final class ReadingBoundsTest extends Bounds {
     static void promise14NoSuchPlace() {
         refusedOutside(1, 4, (x, place) -> x.seen(1, 0, place), NO_SUCH);
         for (int size = 0; size <= 4; size++) {
-            int[] signs = java.util.Arrays.copyOf(new int[] {4, 5, 6, 7}, size);
+            int[] signs = Arrays.copyOf(new int[] {4, 5, 6, 7}, size);
             for (int place = size + 1; place <= 5; place++) {
                 int asked = place;
                 refused("place " + place + " of " + size, () -> hoisted(3, signs), x -> x.seen(0, 3, asked), NO_SUCH);
@@ -88,7 +91,8 @@ public final class ReadingBoundsTest extends Bounds {
         due("it does not droop", hoisted(0, 9).seen(0, 0, 1), 1);
     }
 
-    @Says({"BAD_VALUE if side is out of range", "NO_SUCH if there is no such halyard or place", "NONE if it is not known"})
+    @Says({"BAD_VALUE if side is out of range", "NO_SUCH if there is no such halyard or place",
+        "NONE if it is not known"})
     static void promise14OrderOfErrors() {
         refusedEverywhere("side ahead of halyard", x -> x.seen(2, 5, 1), BAD_VALUE);
         refusedEverywhere("side ahead of place", x -> x.seen(-1, 0, 0), BAD_VALUE);
@@ -181,22 +185,23 @@ public final class ReadingBoundsTest extends Bounds {
         due("no fourth", x.word(0, 3), NO_SUCH);
     }
 
-    /** Each of the 11,110 numbers that an entry may have, in books of 12; the word that is read with it, -2 if none. */
-    private static int wordsKnown(Supplier<MastFlags> make, int asked) {
-        int word = NOT_READ;
+    /** Those of all the 11,110 numbers that an entry may have by which the front reads a word. */
+    private static String numbersRead(Supplier<MastFlags> make) {
+        List<Integer> numbers = new ArrayList<>();
         for (int first : new int[] {10, 100, 1000, 10000}) {
             for (int number = first; number < 2 * first; number += 12) {
                 MastFlags x = make.get();
                 for (int entry = 0; entry < 12 && number + entry < 2 * first; entry++) {
-                    x.enter(number + entry, number + entry == asked ? 99 : 1);
+                    x.enter(number + entry, entry);
                 }
-                word = Math.max(word, x.word(0, 0) == NONE ? NOT_READ : x.word(0, 0) == 99 ? 99 : 1000);
+                int word = x.word(0, 0);
+                if (word != NONE) {
+                    numbers.add(number + word);
+                }
             }
         }
-        return word;
+        return numbers.toString();
     }
-
-    private static final int NOT_READ = -100;
 
     @Says("NONE if the word is not known")
     static void promise15NoneWhateverTheBookIs() {
@@ -204,7 +209,7 @@ public final class ReadingBoundsTest extends Bounds {
             {1, 9, PENNANT + 2, 5}, {1, 2, 9, 3}, {9, PENNANT + 1, PENNANT + 2, PENNANT + 3}};
         for (int[] signs : hoists) {
             Supplier<MastFlags> make = Snapshot.behind(() -> hoisted(2, signs), x -> x.setWind(3, 0));
-            due("of " + signs.length + " signs from " + signs[0], wordsKnown(make, 0), NOT_READ);
+            same("a hoist of " + Arrays.toString(signs), numbersRead(make), "[]");
         }
     }
 
@@ -215,7 +220,7 @@ public final class ReadingBoundsTest extends Bounds {
         int[] numbers = {10, 15, 100, 150, 105, 1000, 1123, 10000, 14321, 17767};
         for (int index = 0; index < hoists.length; index++) {
             int[] signs = hoists[index];
-            due("by " + numbers[index], wordsKnown(() -> hoisted(4, signs), numbers[index]), 99);
+            same("a hoist of " + Arrays.toString(signs), numbersRead(() -> hoisted(4, signs)), "[" + numbers[index] + "]");
         }
     }
 

@@ -1,3 +1,4 @@
+import java.util.List;
 import java.util.function.Supplier;
 
 /** The sentences of promises 30 to 32: undo, save, restore. */
@@ -86,7 +87,7 @@ public final class UndoBoundsTest extends Bounds {
         refused("a new object", MastFlags::new, x -> x.undo(), NOT_POSSIBLE);
         refused("a text and a saved state", Snapshot.behind(() -> typed("0:1"), y -> y.save()),
                 x -> x.undo(), NOT_POSSIBLE);
-        for (Supplier<MastFlags> make : java.util.List.<Supplier<MastFlags>>of(Masts::full, Masts::brimful, () -> winds(1))) {
+        for (Supplier<MastFlags> make : List.<Supplier<MastFlags>>of(Masts::full, Masts::brimful, () -> winds(1))) {
             refused("all undone", Snapshot.behind(make, Bounds::recordedBy), x -> x.undo(), NOT_POSSIBLE);
         }
     }
@@ -95,7 +96,7 @@ public final class UndoBoundsTest extends Bounds {
 
     @Says("Saves the state")
     static void promise31SavesTheState() {
-        for (Supplier<MastFlags> make : java.util.List.<Supplier<MastFlags>>of(
+        for (Supplier<MastFlags> make : List.<Supplier<MastFlags>>of(
                 MastFlags::new, Masts::signalling, Masts::full, Masts::closeUp, Masts::brimful)) {
             MastFlags x = make.get();
             x.save();
