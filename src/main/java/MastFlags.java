@@ -618,11 +618,12 @@ public final class MastFlags {
         }
 
         int removeLowest(int halyard) {
-            int sign = signAt(halyard, sizeOf(halyard));
-            if (sign != NO_SUCH) {
-                sizes[halyard]--;
+            int place = sizeOf(halyard);
+            if (!has(halyard, place)) {
+                return NO_SUCH;
             }
-            return sign;
+            sizes[halyard]--;
+            return signs[halyard * PLACES + place - 1];
         }
 
         void swap(int halyard, int other) {

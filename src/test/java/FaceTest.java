@@ -4,9 +4,13 @@ import java.lang.reflect.Method;
 import java.lang.reflect.Modifier;
 import java.nio.file.Files;
 import java.nio.file.Path;
+import java.util.HashSet;
+import java.util.List;
 import java.util.Set;
 import java.util.TreeSet;
+import java.util.regex.Matcher;
 import java.util.regex.Pattern;
+import java.util.stream.Stream;
 
 /** The public face of DOC.md, nothing beside it, and those rules of LANGUAGE.md that show in the text. */
 public final class FaceTest {
@@ -18,7 +22,8 @@ public final class FaceTest {
         "restore 0"};
     private static final String[] NOT_IN_THE_LANGUAGE = {
         "\\bthrow\\b", "\\bthrows\\b", "\\btry\\b", "\\bcatch\\b", "\\bassert\\b", "\\bsynchronized\\b",
-        "\\bimport\\b", "\\bpackage\\b", "->", "::", "\\bprotected\\b", "\\bcatch\\b", "\\binstanceof\\b"};
+        "\\bimport\\b", "\\bpackage\\b", "->", "::", "\\bprotected\\b", "\\binstanceof\\b"};
+    private static final Set<String> LIBRARY = Set.of("System.arraycopy", "Math.min", "Math.max");
     private static final Checks checks = new Checks();
 
     public static void main(String[] args) throws IOException {
@@ -27,6 +32,7 @@ public final class FaceTest {
         members();
         nestedClasses();
         text();
+        sizes();
         checks.finish();
     }
 
@@ -103,5 +109,34 @@ public final class FaceTest {
             checks.due(pattern + " is used", Pattern.compile(pattern).matcher(code).find() ? 1 : 0, 0);
         }
         checks.due("other characters", program.chars().filter(c -> c > 126).count(), 0);
+        Matcher used = Pattern.compile("\\b[A-Z][a-z]\\w*\\.\\w+").matcher(code);
+        while (used.find()) {
+            checks.due(used.group() + " of the library", LIBRARY.contains(used.group()) ? 1 : 0, 1);
+        }
+    }
+
+    /** The bounds of rule 11: parameters, fields beside constants; a method is some 60 lines long. */
+    private static void sizes() throws IOException {
+        Set<Class<?>> classes = new HashSet<>(Set.of(MastFlags.class.getDeclaredClasses()));
+        classes.add(MastFlags.class);
+        for (Class<?> each : classes) {
+            for (Method method : each.getDeclaredMethods()) {
+                checks.due(method + " takes more than seven", method.getParameterCount() > 7 ? 1 : 0, 0);
+            }
+            long fields = Stream.of(each.getDeclaredFields()).filter(f -> !Modifier.isStatic(f.getModifiers())).count();
+            checks.due(each + " has more than twenty fields", fields > 20 ? 1 : 0, 0);
+        }
+        List<String> lines = Files.readAllLines(Path.of("src/main/java/MastFlags.java"));
+        Pattern head = Pattern.compile("( +)(?!if|for|while|switch)\\w.*\\) \\{");
+        int methods = 0;
+        for (int at = 0; at < lines.size(); at++) {
+            Matcher method = head.matcher(lines.get(at));
+            if (method.matches()) {
+                methods++;
+                int length = lines.subList(at, lines.size()).indexOf(method.group(1) + "}") + 1;
+                checks.due("lines of " + lines.get(at).trim() + " are more than 60", length > 60 ? 1 : 0, 0);
+            }
+        }
+        checks.due("too few methods are measured", methods < METHODS.length ? 1 : 0, 0);
     }
 }
